@@ -77,7 +77,8 @@ public final class FilterRows {
             throw new IndexOutOfBoundsException("no such line or byte");
         }
         rows.takeLine(picture, pass, line);
-        return rows.filteredByte(kind, i);
+        rows.filterLine(kind);
+        return rows.rests[i];
     }
 
     public int worth(int pass, int line, int kind, int way)
@@ -102,7 +103,13 @@ public final class FilterRows {
             for (int line = 0; line < picture.linesOf(pass); line++) {
                 turned = turned * 1103515245 + 12345;
                 rows.takeLine(picture, pass, line);
-                appendLine(kindBy(way, turned));
+                int kind = way;
+                if (way == WAY_SEED) {
+                    kind = ((turned >> 16) & 32767) % (LAST_KIND + 1);
+                } else if (way > LAST_KIND) {
+                    kind = rows.bestKind(way);
+                }
+                appendLine(kind);
             }
         }
         return encoded.count;
@@ -218,20 +225,14 @@ public final class FilterRows {
         Arrays.fill(linesByKind, 0);
     }
 
-    private int kindBy(int way, int turned) {
-        if (way <= LAST_KIND) {
-            return way;
-        }
-        return way == WAY_SEED ? ((turned >> 16) & 32767) % (LAST_KIND + 1) : rows.bestKind(way);
-    }
-
     private void appendLine(int kind) {
         if (isKind(kind)) {
             linesByKind[kind]++;
         }
+        rows.filterLine(kind);
         encoded.append(kind);
         for (int i = 0; i < rows.length; i++) {
-            encoded.append(rows.filteredByte(kind, i));
+            encoded.append(rows.rests[i]);
         }
     }
 
@@ -451,24 +452,26 @@ public final class FilterRows {
         // a byte was seen if the number of the present count stands here: nothing need be wiped
         private final int[] seen = new int[256];
         private int counts;
+        final int[] rests;
         int[] current;
         private int[] above;
         int length;
 
         Rows(int most, int step) {
             this.step = step;
-            current = new int[Math.max(0, most)];
-            above = new int[Math.max(0, most)];
+            rests = new int[Math.max(0, most)];
+            current = new int[rests.length];
+            above = new int[rests.length];
         }
 
         void takeLine(Picture picture, int pass, int line) {
-            length = picture.lineBytes(pass);
+            length = Math.min(rests.length, picture.lineBytes(pass));
             picture.packLine(pass, line, current);
             picture.packLine(pass, line - 1, above);
         }
 
         void startPass(int bytes) {
-            length = bytes;
+            length = Math.min(rests.length, bytes);
             Arrays.fill(current, 0);
         }
 
@@ -478,13 +481,15 @@ public final class FilterRows {
             current = above;
             above = done;
             int kind = from.byteOf(place);
-            for (int i = 0; i < length && i < current.length; i++) {
+            for (int i = 0; i < length; i++) {
                 current[i] = (from.byteOf(place + 1 + i) + guess(kind, i)) & 255;
             }
         }
 
-        int filteredByte(int kind, int i) {
-            return (byteOr0(current, i) - guess(kind, i)) & 255;
+        void filterLine(int kind) {
+            for (int i = 0; i < length; i++) {
+                rests[i] = (current[i] - guess(kind, i)) & 255;
+            }
         }
 
         int bestKind(int way) {
@@ -501,39 +506,39 @@ public final class FilterRows {
         }
 
         int worthOf(int kind, int way) {
+            filterLine(kind);
             if (way == WAY_SUM) {
-                return sumOf(kind);
+                return sumOfRests();
             }
-            return way == WAY_CHANGES ? changesOf(kind) : differentOf(kind);
+            return way == WAY_CHANGES ? changesOfRests() : differentRests();
         }
 
-        private int sumOf(int kind) {
+        private int sumOfRests() {
             int sum = 0;
             for (int i = 0; i < length; i++) {
-                int b = filteredByte(kind, i);
+                int b = rests[i];
                 sum += b < 128 ? b : 256 - b;
             }
             return sum;
         }
 
-        private int changesOf(int kind) {
+        private int changesOfRests() {
             int changes = 0;
             int before = 0;
             for (int i = 0; i < length; i++) {
-                int b = filteredByte(kind, i);
-                if (b != before) {
+                if (rests[i] != before) {
                     changes++;
                 }
-                before = b;
+                before = rests[i];
             }
             return changes;
         }
 
-        private int differentOf(int kind) {
+        private int differentRests() {
             counts++;
             int different = 0;
             for (int i = 0; i < length; i++) {
-                int b = filteredByte(kind, i);
+                int b = rests[i] & 255;
                 if (seen[b] != counts) {
                     different++;
                 }

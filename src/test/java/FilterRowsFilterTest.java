@@ -223,6 +223,9 @@ public final class FilterRowsFilterTest {
     Check.same("changes by 1", z.worth(0, 0, 1, 6), 2);
     z.encode(6, 0, false);
     encodedIs(z, 1, 1, 1, 1, 2);
+    FilterRows v = picture(5, 3, 1, 10, 17, 24, 31, 38, 45, 52, 59, 66, 73);
+    v.encode(5, 0, false);
+    encodedIs(v, 1, 10, 7, 7, 7, 7, 4, 35, 7, 7, 7, 7);
     FilterRows w = picture(6, 3, 1, 9, 9, 4, 4, 4, 9);
     Check.same("different by 0", w.worth(0, 0, 0, 7), 2);
     Check.same("different by 1", w.worth(0, 0, 1, 7), 4);

@@ -61,6 +61,9 @@ public final class FilterRowsPaletteTest {
     // by squares the first would be nearest to black; from the third, the second is the nearer
     orderIs(palette(0x0A0A0A, 0x0B0A0A, 0x1C0000), 2, 1, 0);
     orderIs(palette(0x000100, 0x0000FF, 0x010101), 0, 2, 1);
+    orderIs(palette(0x000100, 0x000000), 1, 0);
+    orderIs(palette(0x000001, 0x000000), 1, 0);
+    orderIs(palette(0x010000, 0x000000), 1, 0);
   }
 
   private static void orderGoesToTheNearest() {
@@ -70,6 +73,10 @@ public final class FilterRowsPaletteTest {
     orderIs(palette(0x000000, 0x0A0000, 0x001100, 0x150000), 0, 1, 3, 2);
     // red, green and blue each count
     orderIs(palette(0, 0x030000, 0x000200, 0x000001), 0, 3, 2, 1);
+    orderIs(palette(0x0A0000, 0x140000, 0x0B0000), 0, 2, 1);
+    orderIs(palette(0x000500, 0x000401, 0x000600), 0, 2, 1);
+    orderIs(palette(0x000005, 0x000104, 0x000006), 0, 2, 1);
+    orderIs(palette(0, 0xFFFFFF), 0, 1);
     orderIs(palette(0, 0xFFFFFF, 0x8080FF, 0xFF8080, 0x80FF80), 0, 2, 1, 3, 4);
   }
 
@@ -88,6 +95,10 @@ public final class FilterRowsPaletteTest {
     Check.same("a darker colour", x.colour(10), 3);
     Check.same("the last place first", x.order(3), 0);
     orderIs(x, 3, 1, 2, 0);
+    FilterRows y = palette(0);
+    orderIs(y, 0);
+    Check.same("a colour behind the one placed", y.colour(5), 1);
+    orderIs(y, 0, 1);
   }
 
   private static void orderRefuses() {
