@@ -52,7 +52,8 @@ public final class FilterRowsFaceTest {
       seen.add(written(method));
       names.add(method.getName());
     }
-    Check.sameText("methods", seen.toString(), new TreeSet<>(java.util.List.of(METHODS)).toString());
+    Check.sameText("methods", seen.toString(),
+        new TreeSet<>(java.util.List.of(METHODS)).toString());
     for (Method method : face.getDeclaredMethods()) {
       boolean hidden = Modifier.isPrivate(method.getModifiers());
       Check.same(method + " bears a public name",

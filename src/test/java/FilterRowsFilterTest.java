@@ -24,88 +24,67 @@ public final class FilterRowsFilterTest {
     Check.end();
   }
 
-  private static FilterRows picture(int width, int told, int channels, int... samples) {
-    FilterRows x = new FilterRows(width, samples.length / width / channels, told, channels);
-    for (int i = 0; i < samples.length; i++) {
-      int place = i / channels;
-      x.put(place % width, place / width, i % channels, samples[i]);
-    }
-    return x;
-  }
-
-  private static void line(FilterRows x, int pass, int line, int kind, int... due) {
-    Check.same("bytes of a line", x.pass(pass, 1), due.length);
-    for (int i = 0; i < due.length; i++) {
-      Check.same("filtered(" + pass + ", " + line + ", " + kind + ", " + i + ")",
-          x.filtered(pass, line, kind, i), due[i]);
-    }
-  }
-
-  private static void encodedIs(FilterRows x, int... due) {
-    Check.same("bytes encoded", x.told(5), due.length);
-    for (int i = 0; i < due.length; i++) {
-      Check.same("byteAt(" + i + ")", x.byteAt(i), due[i]);
-    }
-  }
-
   private static void linesArePackedHighestFirst() {
-    line(picture(10, 0, 1, 1, 0, 1, 1, 0, 0, 0, 1, 0, 1), 0, 0, 0, 0xB1, 0x40);
-    line(picture(5, 1, 1, 3, 0, 1, 2, 3), 0, 0, 0, 0xC6, 0xC0);
-    line(picture(3, 2, 1, 1, 2, 15), 0, 0, 0, 0x12, 0xF0);
-    line(picture(2, 3, 2, 1, 2, 3, 255), 0, 0, 0, 1, 2, 3, 255);
-    line(picture(2, 4, 2, 258, 65535, 0, 1), 0, 0, 0, 1, 2, 255, 255, 0, 0, 0, 1);
-    line(picture(10, 0, 1, 1, 0, 1, 1, 0, 0, 0, 1, 0, 1), 6, 0, 0, 0x58);
+    Pictures.lineIs(Pictures.picture(10, 0, 1, 1, 0, 1, 1, 0, 0, 0, 1, 0, 1), 0, 0, 0, 0xB1, 0x40);
+    Pictures.lineIs(Pictures.picture(5, 1, 1, 3, 0, 1, 2, 3), 0, 0, 0, 0xC6, 0xC0);
+    Pictures.lineIs(Pictures.picture(3, 2, 1, 1, 2, 15), 0, 0, 0, 0x12, 0xF0);
+    Pictures.lineIs(Pictures.picture(2, 3, 2, 1, 2, 3, 255), 0, 0, 0, 1, 2, 3, 255);
+    Pictures.lineIs(Pictures.picture(2, 4, 2, 258, 65535, 0, 1), 0, 0, 0,
+        1, 2, 255, 255, 0, 0, 0, 1);
+    Pictures.lineIs(Pictures.picture(10, 0, 1, 1, 0, 1, 1, 0, 0, 0, 1, 0, 1), 6, 0, 0, 0x58);
   }
 
   private static void kindsFilter() {
-    FilterRows x = picture(3, 3, 1, 10, 20, 200, 15, 18, 190);
-    line(x, 0, 0, 0, 10, 20, 200);
-    line(x, 0, 0, 1, 10, 10, 180);
-    line(x, 0, 0, 2, 10, 20, 200);
-    line(x, 0, 0, 3, 10, 15, 190);
-    line(x, 0, 0, 4, 10, 10, 180);
-    line(x, 0, 1, 0, 15, 18, 190);
-    line(x, 0, 1, 1, 15, 3, 172);
-    line(x, 0, 1, 2, 5, 254, 246);
-    line(x, 0, 1, 3, 10, 1, 81);
-    line(x, 0, 1, 4, 5, 254, 246);
-    FilterRows full = picture(2, 3, 1, 255, 255, 255, 0);
+    FilterRows x = Pictures.picture(3, 3, 1, 10, 20, 200, 15, 18, 190);
+    Pictures.lineIs(x, 0, 0, 0, 10, 20, 200);
+    Pictures.lineIs(x, 0, 0, 1, 10, 10, 180);
+    Pictures.lineIs(x, 0, 0, 2, 10, 20, 200);
+    Pictures.lineIs(x, 0, 0, 3, 10, 15, 190);
+    Pictures.lineIs(x, 0, 0, 4, 10, 10, 180);
+    Pictures.lineIs(x, 0, 1, 0, 15, 18, 190);
+    Pictures.lineIs(x, 0, 1, 1, 15, 3, 172);
+    Pictures.lineIs(x, 0, 1, 2, 5, 254, 246);
+    Pictures.lineIs(x, 0, 1, 3, 10, 1, 81);
+    Pictures.lineIs(x, 0, 1, 4, 5, 254, 246);
+    FilterRows full = Pictures.picture(2, 3, 1, 255, 255, 255, 0);
     Check.same("the half of 255 and 255", full.filtered(0, 1, 3, 1), 1);
     Check.same("0 less 255", full.filtered(0, 1, 1, 1), 1);
     Check.same("the first half of 255", full.filtered(0, 1, 3, 0), 128);
   }
 
   private static void nearestOfThreeTakesTheFirst() {
-    Check.same("c is nearest", picture(2, 3, 1, 15, 20, 10, 100).filtered(0, 1, 4, 1), 85);
-    Check.same("a before c", picture(2, 3, 1, 20, 25, 10, 100).filtered(0, 1, 4, 1), 90);
-    Check.same("b before c", picture(2, 3, 1, 20, 10, 25, 100).filtered(0, 1, 4, 1), 90);
-    Check.same("a is nearest", picture(2, 3, 1, 50, 52, 90, 100).filtered(0, 1, 4, 1), 10);
-    Check.same("aim below 0", picture(2, 3, 1, 255, 1, 2, 100).filtered(0, 1, 4, 1), 99);
-    Check.same("aim above 255", picture(2, 3, 1, 0, 255, 254, 100).filtered(0, 1, 4, 1), 101);
+    Check.same("c is nearest", Pictures.picture(2, 3, 1, 15, 20, 10, 100).filtered(0, 1, 4, 1), 85);
+    Check.same("a before c", Pictures.picture(2, 3, 1, 20, 25, 10, 100).filtered(0, 1, 4, 1), 90);
+    Check.same("b before c", Pictures.picture(2, 3, 1, 20, 10, 25, 100).filtered(0, 1, 4, 1), 90);
+    Check.same("a is nearest", Pictures.picture(2, 3, 1, 50, 52, 90, 100).filtered(0, 1, 4, 1), 10);
+    Check.same("aim below 0", Pictures.picture(2, 3, 1, 255, 1, 2, 100).filtered(0, 1, 4, 1), 99);
+    Check.same("aim above 255",
+        Pictures.picture(2, 3, 1, 0, 255, 254, 100).filtered(0, 1, 4, 1), 101);
   }
 
   private static void stepIsThePlacesBytes() {
-    line(picture(2, 3, 3, 1, 2, 3, 11, 22, 33), 0, 0, 1, 1, 2, 3, 10, 20, 30);
-    line(picture(2, 4, 1, 258, 0x0507), 0, 0, 1, 1, 2, 4, 5);
-    line(picture(2, 4, 2, 258, 772, 0x0507, 0x0A0C), 0, 0, 1, 1, 2, 3, 4, 4, 5, 7, 8);
-    line(picture(4, 2, 1, 1, 2, 3, 4), 0, 0, 1, 0x12, 0x22);
-    FilterRows x = picture(2, 3, 2, 9, 1, 30, 2, 4, 40, 7, 60);
-    line(x, 0, 1, 3, 0, 40, 0xF6, 39);
-    line(x, 0, 1, 4, 0xFB, 39, 0xE9, 20);
+    Pictures.lineIs(Pictures.picture(2, 3, 3, 1, 2, 3, 11, 22, 33), 0, 0, 1, 1, 2, 3, 10, 20, 30);
+    Pictures.lineIs(Pictures.picture(2, 4, 1, 258, 0x0507), 0, 0, 1, 1, 2, 4, 5);
+    Pictures.lineIs(Pictures.picture(2, 4, 2, 258, 772, 0x0507, 0x0A0C), 0, 0, 1,
+        1, 2, 3, 4, 4, 5, 7, 8);
+    Pictures.lineIs(Pictures.picture(4, 2, 1, 1, 2, 3, 4), 0, 0, 1, 0x12, 0x22);
+    FilterRows x = Pictures.picture(2, 3, 2, 9, 1, 30, 2, 4, 40, 7, 60);
+    Pictures.lineIs(x, 0, 1, 3, 0, 40, 0xF6, 39);
+    Pictures.lineIs(x, 0, 1, 4, 0xFB, 39, 0xE9, 20);
   }
 
   private static void nothingIsAboveAPassesFirstLine() {
     FilterRows x = new FilterRows(1, 4, 3, 1);
     x.paint(10, 5);
-    line(x, 7, 0, 2, 15);
-    line(x, 7, 1, 2, 10);
-    line(x, 5, 0, 4, 20);
+    Pictures.lineIs(x, 7, 0, 2, 15);
+    Pictures.lineIs(x, 7, 1, 2, 10);
+    Pictures.lineIs(x, 5, 0, 4, 20);
     FilterRows wide = new FilterRows(8, 8, 3, 1);
     wide.paint(0, 1);
-    line(wide, 3, 0, 1, 32, 4);
-    line(wide, 4, 1, 2, 32, 32);
-    line(wide, 6, 3, 2, 16, 16, 16, 16);
-    line(wide, 5, 1, 4, 32, 2, 2, 2);
+    Pictures.lineIs(wide, 3, 0, 1, 32, 4);
+    Pictures.lineIs(wide, 4, 1, 2, 32, 32);
+    Pictures.lineIs(wide, 6, 3, 2, 16, 16, 16, 16);
+    Pictures.lineIs(wide, 5, 1, 4, 32, 2, 2, 2);
   }
 
   private static void filteredRefuses() {
@@ -128,18 +107,19 @@ public final class FilterRowsFilterTest {
     Check.refused("a byte behind a pass's line", index, () -> x.filtered(1, 0, 0, 1));
   }
 
-  private static void worths(FilterRows x, int line, int kind, int sum, int changes, int different) {
+  private static void worths(FilterRows x, int line, int kind, int sum, int changes,
+      int different) {
     Check.same("sum by " + kind, x.worth(0, line, kind, 5), sum);
     Check.same("changes by " + kind, x.worth(0, line, kind, 6), changes);
     Check.same("different by " + kind, x.worth(0, line, kind, 7), different);
   }
 
   private static void worthCounts() {
-    worths(picture(6, 3, 1, 128, 128, 255, 0, 0, 5), 0, 0, 262, 4, 4);
-    worths(picture(5, 3, 1, 0, 0, 7, 0, 7), 0, 0, 14, 3, 2);
-    worths(picture(3, 3, 1, 127, 128, 129), 0, 0, 382, 3, 3);
-    worths(picture(3, 3, 1, 0, 0, 0), 0, 0, 0, 0, 1);
-    FilterRows x = picture(3, 3, 1, 10, 20, 200, 15, 18, 190);
+    worths(Pictures.picture(6, 3, 1, 128, 128, 255, 0, 0, 5), 0, 0, 262, 4, 4);
+    worths(Pictures.picture(5, 3, 1, 0, 0, 7, 0, 7), 0, 0, 14, 3, 2);
+    worths(Pictures.picture(3, 3, 1, 127, 128, 129), 0, 0, 382, 3, 3);
+    worths(Pictures.picture(3, 3, 1, 0, 0, 0), 0, 0, 0, 0, 1);
+    FilterRows x = Pictures.picture(3, 3, 1, 10, 20, 200, 15, 18, 190);
     worths(x, 0, 1, 96, 2, 2);
     worths(x, 1, 1, 102, 3, 3);
     worths(x, 1, 2, 17, 3, 3);
@@ -169,17 +149,17 @@ public final class FilterRowsFilterTest {
   }
 
   private static void encodePutsLinesBehindOneAnother() {
-    FilterRows x = picture(3, 3, 1, 10, 20, 200, 15, 18, 190);
+    FilterRows x = Pictures.picture(3, 3, 1, 10, 20, 200, 15, 18, 190);
     Check.same("encode 0", x.encode(0, 0, false), 8);
-    encodedIs(x, 0, 10, 20, 200, 0, 15, 18, 190);
+    Pictures.encodedIs(x, 0, 10, 20, 200, 0, 15, 18, 190);
     Check.same("encode 1", x.encode(1, 0, false), 8);
-    encodedIs(x, 1, 10, 10, 180, 1, 15, 3, 172);
+    Pictures.encodedIs(x, 1, 10, 10, 180, 1, 15, 3, 172);
     x.encode(2, 0, false);
-    encodedIs(x, 2, 10, 20, 200, 2, 5, 254, 246);
+    Pictures.encodedIs(x, 2, 10, 20, 200, 2, 5, 254, 246);
     x.encode(3, 0, false);
-    encodedIs(x, 3, 10, 15, 190, 3, 10, 1, 81);
+    Pictures.encodedIs(x, 3, 10, 15, 190, 3, 10, 1, 81);
     x.encode(4, 0, false);
-    encodedIs(x, 4, 10, 10, 180, 4, 5, 254, 246);
+    Pictures.encodedIs(x, 4, 10, 10, 180, 4, 5, 254, 246);
     FilterRows largest = new FilterRows(16, 16, 4, 4);
     Check.same("the largest encoding", largest.encode(0, 0, false), 16 * 129);
     Check.same("the largest laced encoding", largest.encode(0, 0, true), 2048 + 30);
@@ -187,13 +167,13 @@ public final class FilterRowsFilterTest {
   }
 
   private static void encodeGoesThroughSevenPasses() {
-    FilterRows two = picture(2, 3, 1, 1, 2, 3, 4);
+    FilterRows two = Pictures.picture(2, 3, 1, 1, 2, 3, 4);
     Check.same("encode laced", two.encode(0, 0, true), 7);
-    encodedIs(two, 0, 1, 0, 2, 0, 3, 4);
+    Pictures.encodedIs(two, 0, 1, 0, 2, 0, 3, 4);
     FilterRows x = new FilterRows(8, 8, 3, 1);
     x.paint(100, 1);
     Check.same("encode eight by eight", x.encode(0, 0, true), 64 + 15);
-    encodedIs(x, 0, 100, 0, 104, 0, 132, 136, 0, 102, 106, 0, 134, 138,
+    Pictures.encodedIs(x, 0, 100, 0, 104, 0, 132, 136, 0, 102, 106, 0, 134, 138,
         0, 116, 118, 120, 122, 0, 148, 150, 152, 154,
         0, 101, 103, 105, 107, 0, 117, 119, 121, 123, 0, 133, 135, 137, 139, 0, 149, 151, 153, 155,
         0, 108, 109, 110, 111, 112, 113, 114, 115, 0, 124, 125, 126, 127, 128, 129, 130, 131,
@@ -204,35 +184,35 @@ public final class FilterRowsFilterTest {
     for (int way = 5; way <= 7; way++) {
       FilterRows blank = new FilterRows(3, 2, 3, 1);
       blank.encode(way, 0, false);
-      encodedIs(blank, 0, 0, 0, 0, 0, 0, 0, 0);
+      Pictures.encodedIs(blank, 0, 0, 0, 0, 0, 0, 0, 0);
     }
     // the sums of the second line are 99, 102, 17, 92 and 17
-    FilterRows x = picture(3, 3, 1, 10, 20, 200, 15, 18, 190);
+    FilterRows x = Pictures.picture(3, 3, 1, 10, 20, 200, 15, 18, 190);
     x.encode(5, 0, false);
-    encodedIs(x, 0, 10, 20, 200, 2, 5, 254, 246);
+    Pictures.encodedIs(x, 0, 10, 20, 200, 2, 5, 254, 246);
     x.encode(6, 0, false);
-    encodedIs(x, 1, 10, 10, 180, 0, 15, 18, 190);
+    Pictures.encodedIs(x, 1, 10, 10, 180, 0, 15, 18, 190);
     x.encode(7, 0, false);
-    encodedIs(x, 1, 10, 10, 180, 0, 15, 18, 190);
+    Pictures.encodedIs(x, 1, 10, 10, 180, 0, 15, 18, 190);
     // by kind 0 there are three changes, and three by kind 1 (0, 7, 249, 7)
-    FilterRows y = picture(4, 3, 1, 0, 7, 0, 7);
+    FilterRows y = Pictures.picture(4, 3, 1, 0, 7, 0, 7);
     y.encode(6, 0, false);
-    encodedIs(y, 0, 0, 7, 0, 7);
-    FilterRows z = picture(4, 3, 1, 1, 2, 3, 5);
+    Pictures.encodedIs(y, 0, 0, 7, 0, 7);
+    FilterRows z = Pictures.picture(4, 3, 1, 1, 2, 3, 5);
     Check.same("changes by 0", z.worth(0, 0, 0, 6), 4);
     Check.same("changes by 1", z.worth(0, 0, 1, 6), 2);
     z.encode(6, 0, false);
-    encodedIs(z, 1, 1, 1, 1, 2);
-    FilterRows v = picture(5, 3, 1, 10, 17, 24, 31, 38, 45, 52, 59, 66, 73);
+    Pictures.encodedIs(z, 1, 1, 1, 1, 2);
+    FilterRows v = Pictures.picture(5, 3, 1, 10, 17, 24, 31, 38, 45, 52, 59, 66, 73);
     v.encode(5, 0, false);
-    encodedIs(v, 1, 10, 7, 7, 7, 7, 4, 35, 7, 7, 7, 7);
-    FilterRows w = picture(6, 3, 1, 9, 9, 4, 4, 4, 9);
+    Pictures.encodedIs(v, 1, 10, 7, 7, 7, 7, 4, 35, 7, 7, 7, 7);
+    FilterRows w = Pictures.picture(6, 3, 1, 9, 9, 4, 4, 4, 9);
     Check.same("different by 0", w.worth(0, 0, 0, 7), 2);
     Check.same("different by 1", w.worth(0, 0, 1, 7), 4);
     w.encode(7, 0, false);
-    encodedIs(w, 0, 9, 9, 4, 4, 4, 9);
+    Pictures.encodedIs(w, 0, 9, 9, 4, 4, 4, 9);
     w.encode(5, 0, false);
-    encodedIs(w, 1, 9, 0, 251, 0, 0, 5);
+    Pictures.encodedIs(w, 1, 9, 0, 251, 0, 0, 5);
   }
 
   private static void seedTurnsForEachLine() {
@@ -253,24 +233,24 @@ public final class FilterRowsFilterTest {
   }
 
   private static void encodeRefuses() {
-    FilterRows x = picture(2, 3, 1, 1, 2);
+    FilterRows x = Pictures.picture(2, 3, 1, 1, 2);
     x.encode(2, 0, false);
     x.put(0, 0, 0, 9);
     for (int bad : new int[] {-1, 9, LEAST, MOST}) {
       Check.refused("way " + bad, IllegalArgumentException.class, () -> x.encode(bad, 0, false));
     }
-    encodedIs(x, 2, 1, 2);
+    Pictures.encodedIs(x, 2, 1, 2);
     Check.same("chosen after refusals", x.chosen(2), 1);
   }
 
   private static void byteAtTellsWhatWasEncodedLast() {
-    FilterRows x = picture(2, 3, 1, 1, 2);
+    FilterRows x = Pictures.picture(2, 3, 1, 1, 2);
     Check.refused("nothing was encoded", IndexOutOfBoundsException.class, () -> x.byteAt(0));
     x.encode(0, 0, true);
-    encodedIs(x, 0, 1, 0, 2);
+    Pictures.encodedIs(x, 0, 1, 0, 2);
     x.encode(1, 0, false);
     x.paint(77, 0);
-    encodedIs(x, 1, 1, 1);
+    Pictures.encodedIs(x, 1, 1, 1);
     for (int bad : new int[] {-1, 3, LEAST, MOST}) {
       Check.refused("byteAt " + bad, IndexOutOfBoundsException.class, () -> x.byteAt(bad));
     }

@@ -17,21 +17,6 @@ public final class FilterRowsReadTest {
     Check.end();
   }
 
-  private static void feedAll(FilterRows x, int... bytes) {
-    for (int b : bytes) {
-      x.feed(b);
-    }
-  }
-
-  private static void samples(FilterRows x, int... due) {
-    int width = x.told(0);
-    int channels = x.told(3);
-    for (int i = 0; i < due.length; i++) {
-      int place = i / channels;
-      Check.same("sample " + i, x.at(place % width, place / width, i % channels), due[i]);
-    }
-  }
-
   private static void feedCounts() {
     FilterRows x = new FilterRows(2, 1, 3, 1);
     Check.same("feed 0", x.feed(0), 1);
@@ -42,7 +27,7 @@ public final class FilterRowsReadTest {
     Check.same("bytes after refusals", x.told(6), 2);
     Check.same("feed 3", x.feed(3), 3);
     Check.same("decode", x.decode(false), 1);
-    samples(x, 255, 3);
+    Pictures.samplesAre(x, 255, 3);
     Check.same("bytes after decoding", x.told(6), 0);
     Check.same("feed behind decoding", x.feed(1), 1);
   }
@@ -89,7 +74,7 @@ public final class FilterRowsReadTest {
     Check.same("decode these", x.decode(false), -4);
     x.passOn();
     Check.same("decode one", x.decode(false), 1);
-    samples(x, 5, 6);
+    Pictures.samplesAre(x, 5, 6);
   }
 
   private static void passOnEndsAt4000() {
@@ -119,9 +104,9 @@ public final class FilterRowsReadTest {
 
   private static void decodeMakesThePicture() {
     FilterRows x = new FilterRows(3, 2, 3, 1);
-    feedAll(x, 0, 10, 20, 200, 0, 15, 18, 190);
+    Pictures.feedAll(x, 0, 10, 20, 200, 0, 15, 18, 190);
     Check.same("kind 0", x.decode(false), 2);
-    samples(x, 10, 20, 200, 15, 18, 190);
+    Pictures.samplesAre(x, 10, 20, 200, 15, 18, 190);
     int[][] encodings = {
       {1, 10, 10, 180, 1, 15, 3, 172},
       {2, 10, 20, 200, 2, 5, 254, 246},
@@ -131,46 +116,46 @@ public final class FilterRowsReadTest {
     };
     for (int[] bytes : encodings) {
       x.paint(1, 1);
-      feedAll(x, bytes);
+      Pictures.feedAll(x, bytes);
       Check.same("lines of kinds " + bytes[0] + bytes[4], x.decode(false), 2);
-      samples(x, 10, 20, 200, 15, 18, 190);
+      Pictures.samplesAre(x, 10, 20, 200, 15, 18, 190);
     }
     FilterRows two = new FilterRows(2, 2, 3, 1);
-    feedAll(two, 2, 1, 1, 2, 4, 3, 1);
+    Pictures.feedAll(two, 2, 1, 1, 2, 4, 3, 1);
     Check.same("laced lines", two.decode(true), 3);
-    samples(two, 1, 2, 3, 4);
+    Pictures.samplesAre(two, 1, 2, 3, 4);
     FilterRows rgb = new FilterRows(2, 1, 3, 3);
-    feedAll(rgb, 1, 1, 2, 3, 10, 20, 30);
+    Pictures.feedAll(rgb, 1, 1, 2, 3, 10, 20, 30);
     Check.same("a line of three channels", rgb.decode(false), 1);
-    samples(rgb, 1, 2, 3, 11, 22, 33);
+    Pictures.samplesAre(rgb, 1, 2, 3, 11, 22, 33);
     FilterRows wide = new FilterRows(2, 1, 4, 1);
-    feedAll(wide, 1, 1, 2, 4, 5);
+    Pictures.feedAll(wide, 1, 1, 2, 4, 5);
     Check.same("a line of 16 bits", wide.decode(false), 1);
-    samples(wide, 258, 0x0507);
+    Pictures.samplesAre(wide, 258, 0x0507);
   }
 
   private static void decodePassesOverBitsThatAreNoSamples() {
     FilterRows x = new FilterRows(3, 2, 2, 1);
-    feedAll(x, 0, 0x12, 0x3F, 2, 0, 0x01);
+    Pictures.feedAll(x, 0, 0x12, 0x3F, 2, 0, 0x01);
     Check.same("lines with more bits", x.decode(false), 2);
     // 0x3F and 0x01 make 0x40: the bits passed over count for the byte below
-    samples(x, 1, 2, 3, 1, 2, 4);
+    Pictures.samplesAre(x, 1, 2, 3, 1, 2, 4);
     x.encode(0, 0, false);
     Check.same("they are 0 when encoded", x.byteAt(2), 0x30);
     FilterRows one = new FilterRows(1, 3, 0, 1);
-    feedAll(one, 0, 0x7F, 2, 0x01, 3, 0x40);
+    Pictures.feedAll(one, 0, 0x7F, 2, 0x01, 3, 0x40);
     Check.same("lines of one bit", one.decode(false), 3);
-    samples(one, 0, 1, 1);
+    Pictures.samplesAre(one, 0, 1, 1);
     FilterRows laced = new FilterRows(1, 3, 0, 1);
     // passes 1, 5 and 7 have a line each, and nothing comes over from the one before
-    feedAll(laced, 0, 0x7F, 2, 0x01, 2, 0x80);
+    Pictures.feedAll(laced, 0, 0x7F, 2, 0x01, 2, 0x80);
     Check.same("laced lines of one bit", laced.decode(true), 3);
-    samples(laced, 0, 1, 0);
+    Pictures.samplesAre(laced, 0, 1, 0);
   }
 
   private static void refusedWhole(FilterRows x, boolean laced, int due, int... bytes) {
     x.paint(3, 1);
-    feedAll(x, bytes);
+    Pictures.feedAll(x, bytes);
     Check.same("decode that ends", x.decode(laced), due);
     Check.same("bytes to be read then", x.told(6), 0);
     Check.same("samples that are others then", x.paint(3, 1), 0);
